@@ -23,6 +23,9 @@ public final class DigestTest {
         check("habit's fault", x);
         x.type(0, 200);
         check("motor's fault", x);
+        Due.retype(x, 0, "c4;d9");
+        Due.isTrue("34: PRESSLESS it drowns, with no trouble not", x.drowned(0, 3) != x.drowned(1, 3));
+        check("drowned", x);
         long before = x.digest();
         x.sheet(0, 2, 7);
         x.lose(1);

@@ -86,6 +86,11 @@ public final class MorningsTest {
         y.morning(40, 9, 30);
         y.morning(40, 0, 30);
         fitsIs(y, 9, 5, 0, 21 + 1 + 1);
+        ColdMotor w = new ColdMotor();
+        w.morning(0, 0, 0);
+        w.morning(10, 0, 9);
+        w.morning(30, 1, 30);
+        fitsIs(w, 0, 9, 3, 0);
         ColdMotor z = new ColdMotor();
         z.morning(40, 9, 0);
         fitsIs(z, 0, 0, 0, 0);

@@ -6,6 +6,7 @@ public final class NextTest {
         sure();
         bestOfOne();
         bestOfMore();
+        bestOfThoseLeft();
         bestOfLikeOnes();
         refusals();
         Due.end("NextTest");
@@ -125,6 +126,30 @@ public final class NextTest {
         bestIs(x, 1, 0, 1, 1);
         bestIs(x, 2, 0, 1, 1);
         bestIs(x, 3, 0, 1, 1);
+    }
+
+    private static void bestOfThoseLeft() {
+        ColdMotor x = Due.motor("c0");
+        for (int t = 0; t < 5; t++) {
+            x.ahead(t, t == 4 ? 8 : 0);
+        }
+        x.see(0, 0);
+        // it would run without a trouble, but it did nothing: FROZEN, 1 of warmth
+        bestIs(x, 1, 0, 0, 1);
+        bestIs(x, 2, 6, 1, 1);
+        x.back();
+        x.ahead(4, 0);
+        Due.retype(x, 0, "c9;d0");
+        // with no trouble for sure: too cold for any choke, but not with a spoon
+        bestIs(x, 1, 0, 0, 1);
+        bestIs(x, 2, 7, 1, 1);
+        Due.retype(x, 0, "c0");
+        for (int t = 0; t < 5; t++) {
+            x.ahead(t, 15);
+        }
+        x.see(0, 2);
+        // it runs with the least of all odds
+        bestIs(x, 1, 0, 1, 1);
     }
 
     private static void bestOfLikeOnes() {

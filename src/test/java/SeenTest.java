@@ -77,6 +77,9 @@ public final class SeenTest {
         Due.is("8: an empty one", x.read(1), 0);
         x.sheet(1, 2, 1);
         Due.is("8: of one item", x.read(1), 0);
+        x.sheet(1, 2, 2);
+        Due.is("8: of two items", x.read(1), 1);
+        x.back();
         x.sheet(1, 1, 48);
         Due.is("8: until it is full", x.read(1), 15);
         Due.is("8: count(2)", x.count(2), 24);
@@ -116,6 +119,10 @@ public final class SeenTest {
         x.back();
         x.see(5, 6);
         Due.is("10: another motor", x.left(), 8);
+        for (int t = 0; t < 5; t++) {
+            x.ahead(t, 15);
+        }
+        Due.is("10: the least odds are odds", x.left(), 32);
         Due.retype(x, 0, "m7");
         Due.is("10: the text is read at the time of the call", x.left(), 0);
     }
@@ -229,6 +236,13 @@ public final class SeenTest {
         stateIs("heat: 20 at most", x, 0, 11, 14, 0, 0, 20, 0, 0, 0);
         x.see(9, 0);
         stateIs("no light for it", x, 8, 11, 14, 0, 0, 20, 0, 0, 0);
+        ColdMotor z = Due.motor("c0;s0;m99");
+        z.see(6, 0);
+        z.see(0, 0);
+        z.see(0, 0);
+        z.see(0, 0);
+        z.see(4, 0);
+        stateIs("wait: 1 of warmth, 1 of battery", z, 0, 10, 80, 0, 0, 8, 0, 0, 0);
         ColdMotor y = new ColdMotor();
         y.see(1, 0);
         stateIs("it runs, whatever was seen", y, 0, 11, 59, 2, 0, 0, 0, 0, 1);
@@ -277,6 +291,13 @@ public final class SeenTest {
         Due.is("14: frozen, but warm: mix 5 + 3", x.sign(FROZEN, 0), 2);
         x.see(4, 0);
         Due.is("14: frozen, warmth is 5: mix 5", x.sign(FROZEN, 3), 2);
+        ColdMotor y = Due.motor("c9;d9;m99;b30");
+        y.see(6, 0);
+        y.see(3, 0);
+        y.see(4, 0);
+        y.see(4, 0);
+        Due.is("14: frozen again: 3 off the wall alone", y.sign(FROZEN, 3), 1);
+        Due.is("14: not frozen: 3 off the wall, and 2", y.sign(0, 3), 2);
         x.see(3, 2);
         Due.is("14: the wall shows that nothing was drawn", x.state(FROZEN, 2), 0);
     }
@@ -302,6 +323,11 @@ public final class SeenTest {
         ColdMotor x = Due.motor("c0;p4");
         x.see(6, 0);
         Due.is("14: warmth of 6 helps it", x.sign(0, 0), 2);
+        x.see(4, 0);
+        Due.is("14: warmth of 5 does not", x.sign(0, 0), 1);
+        ColdMotor z = Due.motor("c0;d9;s5;b4");
+        z.see(3, 0);
+        Due.is("14: wet by 6 takes 2", z.sign(0, 0), 1);
         ColdMotor y = Due.motor("c0;d9;s5;b4");
         y.see(2, 0);
         Due.is("14: wet by 4 takes 1", y.sign(0, 0), 2);
@@ -349,5 +375,8 @@ public final class SeenTest {
         Due.is("14: the plug is wet", y.sign(0, 5), 5);
         y.see(5, 5);
         Due.is("14: the plug is dry", y.sign(0, 5), 6);
+        ColdMotor z = Due.motor("c0;d8");
+        z.see(1, 1);
+        Due.is("14: the plug is wet by 1", z.sign(0, 5), 5);
     }
 }

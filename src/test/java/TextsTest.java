@@ -79,6 +79,15 @@ public final class TextsTest {
         Due.is("3: wipe(1)", x.wipe(1), 3);
         Due.is("3: the habit is gone", x.count(6), 0);
         Due.is("3: wipe(1) again", x.wipe(1), 0);
+        // what stood there before the wipe is not read again
+        Due.retype(x, 0, "t20;s1");
+        Due.retype(x, 0, "t");
+        Due.is("3: fault(0) of a shorter text", x.fault(0), 1);
+        Due.retype(x, 0, "t1");
+        Due.is("3: motor(2) of a shorter text", x.motor(2), 1);
+        Due.retype(x, 1, "1*3");
+        Due.retype(x, 1, "1");
+        Due.is("3: count(6) of a shorter text", x.count(6), 1);
     }
 
     private static void fault(int text, String bytes, int want) {
