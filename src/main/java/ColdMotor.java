@@ -1059,7 +1059,7 @@ public final class ColdMotor {
 
     /** A SHEET: LOST as long as it has no form. */
     private static final class Sheet {
-        // One row for all its lives: a new one for each would fill the room.
+        // One row for all its lives, so that no call makes another.
         final int[] items = new int[MOST_ITEMS];
         int form = NONE;
         int size;
