@@ -4,8 +4,14 @@ final class Due {
     static final long NOT = Long.MIN_VALUE + 3;
     private static int calls = 0;
     private static int wrong = 0;
+    private static String sentence = "";
 
     private Due() {
+    }
+
+    /** What is tested from here on: the document's own words, told with each answer that is wrong. */
+    static void says(String words) {
+        sentence = " [" + words + "]";
     }
 
     static void is(String call, long got, long want) {
@@ -13,7 +19,7 @@ final class Due {
         if (got != want) {
             wrong++;
             if (wrong <= 50) {
-                System.out.println(call + " answered " + got + ", due is " + want);
+                System.out.println(call + " answered " + got + ", due is " + want + sentence);
             }
         }
     }
