@@ -24,6 +24,9 @@ public final class ColdMotor {
     private static final int NULL = 1, INDEX = 2, CAST = 3, STORE = 4, SIZE = 5;
     private static final int[] DIGEST_SETS = {0, 3, 31};
 
+    private static final int LEAST_INT = 1 << 31;
+    private static final long LEAST_LONG = 1L << 63;
+
     /** By the sixteenths of five troubles: what the odds of all sets come to together. */
     private static final long ALL_ODDS = 1L << 20;
 
@@ -344,12 +347,12 @@ public final class ColdMotor {
 
     public int get(int s, int form, int i) {
         if (!isBelow(s, SHEETS) || !isBelow(form, FORMS)) {
-            return Integer.MIN_VALUE;
+            return LEAST_INT;
         }
         int wrong = sheets[s].wrongWith(form, i);
         if (wrong != 0) {
             finding = wrong;
-            return Integer.MIN_VALUE;
+            return LEAST_INT;
         }
         return sheets[s].itemAt(i);
     }
@@ -488,7 +491,7 @@ public final class ColdMotor {
     }
 
     private static long refusal(int code) {
-        return Long.MIN_VALUE - code;
+        return LEAST_LONG - code;
     }
 
     private static long told(long above, long below, int what) {
@@ -1035,7 +1038,9 @@ public final class ColdMotor {
             if (lawKnown) {
                 return;
             }
-            law[3] = Integer.MAX_VALUE;
+            // The least of all laws is the one to beat, whichever fitted before.
+            Arrays.fill(law, 0);
+            law[3] = offBy(0, 0, 0);
             for (int a = 0; a <= MOST_A; a++) {
                 for (int b = 0; b <= MOST_B; b++) {
                     for (int c = 0; c <= MOST_C; c++) {

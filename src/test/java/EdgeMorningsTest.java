@@ -12,6 +12,7 @@ public final class EdgeMorningsTest {
         fitsTheLastLaw();
         fitsWithoutMornings();
         fitsOfAllSixteen();
+        fitsAnewBehindEachMorning();
         Due.end("EdgeMorningsTest");
     }
 
@@ -190,5 +191,22 @@ public final class EdgeMorningsTest {
             x.morning(2 * i, i % 10, 2 + 3 * 2 * i / 10 + i % 10);
         }
         fitsIs(x, 2, 3, 1, 0);
+    }
+
+    private static void fitsAnewBehindEachMorning() {
+        Due.says("FITS: the LAW with the fewest, of like ones the least a, then b, then c");
+        ColdMotor a = new ColdMotor();
+        a.morning(0, 0, 5);
+        fitsIs(a, 5, 0, 0, 0);
+        // now every law of 0 to 5 is off by 5, and none that fitted before is left in it
+        a.morning(0, 0, 0);
+        fitsIs(a, 0, 0, 0, 5);
+        ColdMotor bc = new ColdMotor();
+        bc.morning(40, 9, 30);
+        fitsIs(bc, 0, 3, 2, 0);
+        bc.morning(40, 9, 0);
+        fitsIs(bc, 0, 0, 0, 30);
+        bc.morning(40, 9, 30);
+        fitsIs(bc, 0, 3, 2, 30);
     }
 }

@@ -31,6 +31,7 @@ public final class LanguageTest {
         }
         Due.isTrue("11: classes", ColdMotor.class.getDeclaredClasses().length < 12);
         words(strip(source));
+        library(strip(source));
         lengths(strip(source));
         Due.end("LanguageTest");
     }
@@ -119,6 +120,20 @@ public final class LanguageTest {
                 Due.isTrue("a plain sign at " + i, false);
             }
         }
+    }
+
+    /** Of the library's classes only what rule 4 names: their functions, none of their constants. */
+    private static void library(String bare) {
+        Set<String> told = Set.of("Integer.bitCount", "Math.max", "Math.min", "Math.abs", "Arrays.fill",
+            "System.arraycopy");
+        Matcher used = Pattern.compile("\\b(?:Integer|Long|Math|Arrays|System|Short|Byte|Character)\\.\\w+")
+            .matcher(bare.replaceAll("(?m)^import .*$", ""));
+        int uses = 0;
+        while (used.find()) {
+            uses++;
+            Due.isTrue("4: " + used.group(), told.contains(used.group()));
+        }
+        Due.isTrue("4: uses of the library were found", uses > 10);
     }
 
     private static void lengths(String bare) {
